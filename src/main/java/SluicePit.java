@@ -109,7 +109,7 @@ public final class SluicePit {
         spare = before;
         wetTold = false;
         acts.forget();
-        run.record(played, pool);
+        run.playAll(played, pool);
         return played.statements;
     }
 
@@ -243,7 +243,7 @@ public final class SluicePit {
         }
         acts.keep(played.parts, desk);
         int otherwise = played.parts.setActs(desk, from, to, down ? DOWN : REST);
-        run.record(played, pool);
+        run.playAll(played, pool);
         return otherwise;
     }
 
@@ -261,7 +261,7 @@ public final class SluicePit {
         }
         acts.keep(played.parts, desk);
         played.parts.setPart(desk, partReader.bars, partReader.count);
-        run.record(played, pool);
+        run.playAll(played, pool);
         return partReader.count;
     }
 
@@ -269,7 +269,7 @@ public final class SluicePit {
         if (!acts.takeBack(played.parts)) {
             return false;
         }
-        run.record(played, pool);
+        run.playAll(played, pool);
         return true;
     }
 
@@ -389,7 +389,7 @@ public final class SluicePit {
         if (good) {
             takeImage();
             acts.forget();
-            run.record(played, pool);
+            run.playAll(played, pool);
         }
         tape.size = 0;
         return good;
@@ -1387,11 +1387,7 @@ public final class SluicePit {
             return cellOf(measures, bar, what);
         }
 
-        boolean trills(int bar) {
-            return measure(bar, TRILLED) > measure(bar - 1, TRILLED);
-        }
-
-        void record(Opera opera, Pool pool) {
+        void playAll(Opera opera, Pool pool) {
             pool.beginTold(opera);
             keep(opera, pool, 0);
             for (int b = 1; b <= MOST_BARS; b++) {
@@ -1744,21 +1740,18 @@ public final class SluicePit {
             used++;
         }
 
+        // What came, ran out, was drunk, spilt is kept in the order of its words, behind that of the BAR.
         private void addMeasure(int word) {
             for (int b = 0; b <= MOST_BARS; b++) {
-                putCell(rows, used, b, measureOf(word, b));
+                int value = b;
+                if (word == TRILLS_WORD) {
+                    value = run.measure(b, TRILLED) - run.measure(b - 1, TRILLED);
+                } else if (word != BAR_WORD) {
+                    value = run.measure(b, word - 1);
+                }
+                putCell(rows, used, b, value);
             }
             used++;
-        }
-
-        private int measureOf(int word, int bar) {
-            if (word == BAR_WORD) {
-                return bar;
-            }
-            if (word == TRILLS_WORD) {
-                return run.trills(bar) ? 1 : 0;
-            }
-            return run.measure(bar, word - 1);
         }
 
         // The last two rows become one.
@@ -1787,7 +1780,10 @@ public final class SluicePit {
         }
 
         private static int within(long value) {
-            return (int) Math.max(-FURTHEST, Math.min(FURTHEST, value));
+            if (value > FURTHEST) {
+                return FURTHEST;
+            }
+            return value < -FURTHEST ? -FURTHEST : (int) value;
         }
     }
 }
