@@ -1,10 +1,5 @@
 /** Each promise of the document by its number: ordinary calls, the edges that it names, wrong calls. */
-public final class PromiseTest {
-    private static final long NOTHING = -1000000000000000L;
-    private static int wrong = 0;
-    private static int asked = 0;
-    private static String now = "";
-
+public final class PromiseTest extends Told {
     public static void main(String[] args) {
         p1();
         p2();
@@ -45,100 +40,7 @@ public final class PromiseTest {
         p27();
         p28();
         p29();
-        System.out.println(asked + " answers asked, " + wrong + " not as due");
-        if (wrong != 0) System.exit(1);
-    }
-
-    // ---- helpers
-
-    private static void due(String what, long got, long want) {
-        asked++;
-        if (got != want) {
-            wrong++;
-            System.out.println(now + ": " + what + " answered " + got + ", due is " + want);
-        }
-    }
-
-    private static void due(String what, boolean got, boolean want) {
-        due(what, got ? 1 : 0, want ? 1 : 0);
-    }
-
-    private static void tape(SluicePit x, String text) {
-        x.end(0);
-        for (int k = 0; k < text.length(); k += 20) {
-            int[] five = new int[5];
-            for (int i = 0; i < 20; i++) {
-                int octet = k + i < text.length() ? text.charAt(k + i) : ' ';
-                five[i / 4] = five[i / 4] << 8 | octet;
-            }
-            due("feed", x.feed(five[0], five[1], five[2], five[3], five[4]), k + 20);
-        }
-        due("end", x.end(text.length()), true);
-    }
-
-    private static SluicePit pit(String text) {
-        SluicePit x = new SluicePit();
-        tape(x, text);
-        if (x.opera() < 0) {
-            wrong++;
-            System.out.println(now + ": FAULT " + x.fault(0) + " at " + x.fault(1) + " of " + text);
-        }
-        return x;
-    }
-
-    private static void good(String text, int statements) {
-        SluicePit x = new SluicePit();
-        tape(x, text);
-        due("opera of " + text, x.opera(), statements);
-        due("fault(0) of " + text, x.fault(0), 0);
-        due("fault(1) of " + text, x.fault(1), -1);
-    }
-
-    private static void bad(String text, int kind, int place) {
-        SluicePit x = new SluicePit();
-        tape(x, text);
-        due("opera of " + text, x.opera(), -1);
-        due("fault(0) of " + text, x.fault(0), kind);
-        due("fault(1) of " + text, x.fault(1), place);
-        due("has(0)", x.has(0), 0);
-    }
-
-    private static int teach(SluicePit x, int desk, String text) {
-        tape(x, text);
-        return x.teach(desk);
-    }
-
-    private static boolean wet(SluicePit x, int... water) {
-        StringBuilder b = new StringBuilder();
-        for (int w : water) b.append((char) w);
-        tape(x, b.toString());
-        return x.wet();
-    }
-
-    private static long ask(SluicePit x, String text) {
-        tape(x, text);
-        return x.ask();
-    }
-
-    private static boolean on(SluicePit x, int... octets) {
-        StringBuilder b = new StringBuilder();
-        for (int o : octets) b.append((char) o);
-        tape(x, b.toString());
-        return x.on();
-    }
-
-    // WATER of the CELLS in a BAR.
-    private static void deep(SluicePit x, int bar, int... water) {
-        for (int c = 0; c < water.length; c++) due("deep(" + c + ", " + bar + ")", x.deep(c, bar), water[c]);
-    }
-
-    private static void acts(SluicePit x, int desk, String part) {
-        due("bars of " + desk, x.desk(desk, -1), part.length());
-        for (int b = 1; b <= part.length(); b++) due("desk(" + desk + ", " + b + ")", x.desk(desk, b), "durt".indexOf(part.charAt(b - 1)));
-    }
-
-    private static boolean tapeIsEmpty(SluicePit x) {
-        return !x.end(1);
+        close();
     }
 
     // ---- the promises
@@ -1183,14 +1085,6 @@ public final class PromiseTest {
         return all;
     }
 
-    private static void badAsk(String text, int kind, int place) {
-        SluicePit x = pit("river 2;");
-        due("ask " + text, ask(x, text), NOTHING);
-        due("fault(0) of " + text, x.fault(0), kind);
-        due("fault(1) of " + text, x.fault(1), place);
-        due("tape", tapeIsEmpty(x), true);
-    }
-
     private static void p26Faults() {
         now = "promise 26, FAULT 1";
         badAsk("", 1, 0);
@@ -1339,12 +1233,6 @@ public final class PromiseTest {
         due("image", x.image(), 1);
         due("octet(1)", x.octet(1), -1);
         due("octet(0)", x.octet(0), 149);
-    }
-
-    private static int check(int... ahead) {
-        int c = 149;
-        for (int one : ahead) c = (3 * c + one) % 251;
-        return c;
     }
 
     private static void p29() {
