@@ -17,6 +17,7 @@ public final class EdgeAskTest extends Told {
         bringFewest();
         bringBars();
         bringNone();
+        oneSupposed();
         wetBytes();
         wetStays();
         earlyUpToTheBar();
@@ -180,6 +181,41 @@ public final class EdgeAskTest extends Told {
         for (int boat : NOBODY) bring(x, boat, 1, -1, -1);
         bring(x, 2, 1, -1, -1);
         bring(new SluicePit(), 0, 0, -1, -1);
+    }
+
+    private static void oneSupposed() {
+        now = "promises 19 to 23, III: each is asked of all as it is, whatever was asked ahead";
+        SluicePit x = pit(LATE + "bank 2;boat y at 1 draft 4;boat z at 0 draft 2;desk a arms 8 plays rd;desk b arms 8 plays dr;");
+        // BAR 1: 8: out 4: 2 spilt; BAR 2: 2 + 8: out 5: 3 spilt; CELL 0 is dry
+        deep(x, 1, 0, 2);
+        deep(x, 2, 0, 2);
+        wet(x, 0, 0);
+        for (int round = 0; round < 5; round++) {
+            for (int k = 0; k < 5; k++) {
+                int which = (k * (round + 1) + round) % 5;
+                if (which == 0) stop(x, 0, 2, 0, 0);
+                if (which == 1) stop(x, 0, 0, 0, 0);
+                if (which == 2) early(x, 1, 101);
+                if (which == 3) due("encore(1, 1)", x.encore(1, 1), 3);
+                if (which == 4) due("encore(2, 2)", x.encore(2, 2), 6);
+            }
+            bring(x, 1, 60, -1, -1);
+            due("encore(0, 2)", x.encore(0, 2), 5);
+        }
+        SluicePit y = pit(STILL + "boat z at 0 draft 2;desk a arms 1 plays rd;desk b arms 1 plays d;desk c arms 9 plays u;");
+        for (int round = 0; round < 2; round++) {
+            due("encore", y.encore(5, 9), 0);
+            stop(y, 0, 2, 1, 1);
+            wet(y, 1, 0);
+            early(y, 1, 201);
+            stop(y, 0, 2, 1, 1);
+            due("encore", y.encore(30, 30), 0);
+            early(y, 1, 201);
+            bring(y, 0, 60, -1, -1);
+            early(y, 1, 201);
+            stop(y, 0, 1, 0, 0);
+        }
+        deep(y, 2, 2, 0);
     }
 
     // ---- promises 21, 22

@@ -193,6 +193,8 @@ public final class EdgeOperaTest extends Told {
         now = "promise 4, I: river N (2 .. 12 CELLS; the first STATEMENT, and it alone)";
         range("river ", ";", 2, 12);
         bad("bank 9;river 2;", 1, 0);
+        bad(";", 1, 0);
+        bad(";river 2;", 1, 0);
         bad("bed 0 at 0;", 1, 0);
         badAt("river 2;", "river 2;", 1);
         badAt("river 2;bank 9;", "river 2;", 1);

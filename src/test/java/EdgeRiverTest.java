@@ -22,6 +22,7 @@ public final class EdgeRiverTest extends Told {
         bank99();
         order();
         sumsUpTo();
+        sumsAnew();
         ledUpTo();
         boatAground();
         boatGoes();
@@ -107,13 +108,13 @@ public final class EdgeRiverTest extends Told {
 
     private static void pitLeads() {
         now = "promise 9, II: its CELL has as many inches more as arms of all DESKS that bow down";
-        String text = "desk a arms 1 plays #;desk b arms 2 plays #;desk c arms 9 plays #;";
+        String desks = "desk a arms 1 plays #;desk b arms 2 plays #;desk c arms 9 plays #;";
         String[] all = {"uuu", "ddd", "dur", "udt", "rrd", "ttt", "trd"};
         int[] due = {0, 12, 1, 2, 9, 0, 9};
         for (int k = 0; k < all.length; k++) {
-            String now = STILL;
-            for (int d = 0; d < 3; d++) now += text.split(";")[d].replace('#', all[k].charAt(d)) + ";";
-            SluicePit x = pit(now);
+            String text = STILL;
+            for (int d = 0; d < 3; d++) text += desks.split(";")[d].replace('#', all[k].charAt(d)) + ";";
+            SluicePit x = pit(text);
             deep(x, 1, due[k] > 9 ? due[k] - (due[k] - 9) / 2 : due[k]);
             due("came", x.sums(1, 0), due[k]);
             for (int d = 0; d < 3; d++) due("led", x.led(d, 1), all[k].charAt(d) == 'd' ? new int[] {1, 2, 9}[d] : 0);
@@ -472,7 +473,8 @@ public final class EdgeRiverTest extends Told {
         now = "promise 14: NONE when there is none such, or for others";
         SluicePit x = pit("river 2;boat a at 1 draft 1;boat b at 0 draft 7;");
         due("the last", x.first(1, 2), 7);
-        for (int what : new int[] {-1, 3, LEAST, GREATEST}) due("what " + what, x.first(1, what), -1);
+        due("in the last CELL", x.first(0, 1), 0);
+        for (int what : new int[] {-1, 3, LEAST, GREATEST}) for (int boat = 0; boat < 2; boat++) due("what " + what, x.first(boat, what), -1);
         for (int boat : new int[] {-1, 2, LEAST, GREATEST}) for (int what = 0; what < 3; what++) due("boat " + boat, x.first(boat, what), -1);
     }
 
@@ -637,6 +639,40 @@ public final class EdgeRiverTest extends Told {
         due("bar 60", x.desk(1, 60), 3);
         due("bars", x.desk(1, -1), 60);
         due("trilled", x.sums(60, 5), 2);
+        // and what it was ahead of an ACT in it
+        due("mark", x.mark(1, 60, 60, true), 1);
+        due("bar 60", x.desk(1, 60), 0);
+        due("undo", x.undo(), true);
+        due("bar 60", x.desk(1, 60), 3);
+        due("mark", x.mark(1, 1, 1, true), 1);
+        due("undo", x.undo(), true);
+        due("bar 1", x.desk(1, 1), 2);
+    }
+
+    private static void sumsAnew() {
+        now = "promise 11: Up to a BAR, behind an ACT, an undo, an image and another opera";
+        String text = "river 2;bank 3;water 8 at 1;desk a arms 9 plays d;desk b arms 1 plays t;claque at 0 drinks 1;";
+        SluicePit x = pit(text);
+        int[] told = new int[6];
+        for (int what = 0; what < 6; what++) told[what] = x.sums(60, what);
+        due("came", told[0], 9);
+        int[] from0 = {0, 0, 0, 0, 8, 0};
+        for (int round = 0; round < 6; round++) {
+            // what is supposed between leaves nothing in them
+            x.encore(0, 3);
+            wet(x, 0, 0);
+            x.early(9, -1);
+            if (round == 0) x.mark(0, 1, 1, true);
+            if (round == 1) x.mark(0, 9, 9, false);
+            if (round == 2) x.undo();
+            if (round == 3) teach(x, 0, "dr");
+            if (round == 4) on(x, 1, 0, 1, 3, check(1, 0, 1, 3));
+            if (round == 5) opera(x, text);
+            for (int what = 0; what < 6; what++) {
+                due("BAR 0, round " + round, x.sums(0, what), from0[what]);
+                due("BAR 60, round " + round, x.sums(60, what), told[what]);
+            }
+        }
     }
 
     private static void undoNothing() {
