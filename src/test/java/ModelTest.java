@@ -35,6 +35,7 @@ public final class ModelTest {
         for (int step = 0; good && calls < CALLS - 100; step++) {
             good = model.has(0) == 0 && step < 4 ? tell(opera(), "opera") : one();
         }
+        while (good && calls < CALLS) good = single();
         all += calls;
         if (!good) {
             wrong++;
@@ -136,6 +137,21 @@ public final class ModelTest {
             case 31: return tell(imageText(), "on");
             case 32: return tell(hurt(part(4)), "teach");
             default: return same("fault " + what, pit.fault(what), model.fault(what));
+        }
+    }
+
+    // A step of one call alone: by these a run comes to its 512th.
+    private boolean single() {
+        int a = about(3);
+        int b = about(60);
+        int what = about(5);
+        switch (r(6)) {
+            case 0: return mark();
+            case 1: return same("undo", pit.undo(), model.undo());
+            case 2: return trout();
+            case 3: return same("deep " + a + " " + b, pit.deep(a, b), model.deep(a, b));
+            case 4: return same("sums " + b + " " + what, pit.sums(b, what), model.sums(b, what));
+            default: return same("boat " + a + " " + b, pit.boat(a, b, what > 2), model.boat(a, b, what > 2));
         }
     }
 
